@@ -359,6 +359,10 @@ public final class Promises {
         x.make(2, 2);
         due(10, "merge(1, 2), none left out", x.merge(1, 2), 0);
         dueOrder(10, x, 1, "2:5/2 3:5/2 7:5/2 1:7/7 absent 4 total 20");
+        loaded(x, 2, 3, 40, 6, 0, 8, 7, 3);
+        loaded(x, 5, 3, 50, 9, 0, 7, 10, 10);
+        due(10, "merge(2, 5), both with an ABSENT", x.merge(2, 5), 0);
+        dueOrder(10, x, 2, "7:16/10 8:16/3 absent 15 total 90");
         int[][] cant = {{0, 0}, {0, 3}, {3, 0}, {3, 3}, {0, 6}, {6, 0}, {-1, 0}, {0, -1}};
         for (int[] c : cant) {
             due(10, "merge(" + c[0] + ", " + c[1] + ")", x.merge(c[0], c[1]), -2);
@@ -374,25 +378,30 @@ public final class Promises {
 
     private static void copies() {
         HeavyThings x = filled();
+        x.come(0, 1, 5);
+        x.come(0, 2, 5);
+        x.come(0, 4, 4);
+        x.halve(0);
         x.halving(0, 77);
         x.make(5, 9);
         x.come(5, 500, 5);
         due(11, "copy(5, 0)", x.copy(5, 0), 3);
         due(11, "copy(4, 0), made", x.copy(4, 0), 3);
         for (int s = 4; s <= 5; s++) {
-            dueOrder(11, x, s, "4:4/1 1:5/5 2:5/2 absent 3 total 14");
+            dueOrder(11, x, s, "4:4/2 1:5/5 2:5/3 absent 1 total 14");
             for (int what = 0; what <= 10; what++) {
                 due(11, "has(" + s + ", " + what + ")", x.has(s, what), x.has(0, what));
             }
+            due(11, "has(" + s + ", 8)", x.has(s, 8), 1);
             due(11, "gone(" + s + ", 0, 0)", x.gone(s, 0, 0), 3);
             due(11, "gone(" + s + ", 1, 2)", x.gone(s, 1, 2), 4);
         }
         due(11, "TRUTH of 500", x.bounds(5, 500, 3), 0);
         x.come(0, 1, 1);
         x.come(4, 2, 1);
-        dueOrder(11, x, 0, "4:4/1 2:5/2 1:6/6 absent 3 total 15");
-        dueOrder(11, x, 4, "4:4/1 1:5/5 2:6/3 absent 3 total 15");
-        dueOrder(11, x, 5, "4:4/1 1:5/5 2:5/2 absent 3 total 14");
+        dueOrder(11, x, 0, "4:4/2 2:5/3 1:6/6 absent 1 total 15");
+        dueOrder(11, x, 4, "4:4/2 1:5/5 2:6/4 absent 1 total 15");
+        dueOrder(11, x, 5, "4:4/2 1:5/5 2:5/3 absent 1 total 14");
         due(11, "TRUTH of 2", x.bounds(5, 2, 3), 5);
         int[][] cant = {{0, 0}, {0, 1}, {1, 1}, {6, 0}, {-1, 0}, {0, 6}, {0, -1}};
         for (int[] c : cant) {
@@ -661,6 +670,8 @@ public final class Promises {
         for (int[] c : cant) {
             due(24, "need(" + c[0] + ", " + c[1] + ", " + c[2] + ")", x.need(c[0], c[1], c[2]), -2);
         }
+        x.make(1, 2);
+        due(24, "need(1, 7, 24), without a COUNTER", x.need(1, 7, 24), 1);
         loaded(x, 1, 2, MOST, 0, 0, 7, 1000000, 0);
         due(24, "need(1, 8, 1), by none", x.need(1, 8, 1), NONE);
         due(24, "need(1, 8, 2), whatever TOTAL", x.need(1, 8, 2), 1);
@@ -824,6 +835,8 @@ public final class Promises {
         due(32, "clear(2), by 1000 alone", x.clear(2), 1000);
         loaded(x, 2, 2, 100000, 0, 0, 5, 299, 250);
         due(32, "clear(2), HIGH and LOW of one thousandth", x.clear(2), 1);
+        loaded(x, 2, 2, 1, 0, 0, 5, 1, 0);
+        due(32, "clear(2), of the least TOTAL", x.clear(2), NONE);
         due(32, "clear(3)", x.clear(3), NONE);
         due(32, "clear(6)", x.clear(6), NONE);
     }
@@ -837,6 +850,8 @@ public final class Promises {
         x.halving(0, 1);
         due(33, "lasts(0, 2, 1), nothing HALVED", x.lasts(0, 2, 1), 3);
         dueOrder(33, x, 0, "4:4/1 1:5/5 2:5/2 absent 3 total 14");
+        loaded(x, 1, 2, 100, 0, 1, 7, 9, 9);
+        due(33, "lasts(1, 7, 1), nothing HALVED", x.lasts(1, 7, 1), 10);
         loaded(x, 1, 2, MOST, 0, 0, 7, 99, 99);
         due(33, "lasts(1, 7, 1), whatever TOTAL", x.lasts(1, 7, 1), 100);
         loaded(x, 1, 2, MOST, 0, 0, 7, 100, 100);
@@ -912,6 +927,20 @@ public final class Promises {
         due(36, "off(2, 1)", x.off(2, 1), 0);
         due(36, "off(2, 2)", x.off(2, 2), 0);
         due(36, "off(2, 3), of all, if these are fewer", x.off(2, 3), 0);
+        x.make(3, 4);
+        x.come(3, 4, 2);
+        x.come(3, 5, 2);
+        x.come(3, 6, 2);
+        x.come(3, 7, 9);
+        x.keep(0);
+        x.only(3, 5, 2);
+        due(36, "off(3, 3), the first alone", x.off(3, 3), 0);
+        x.back(0);
+        x.only(3, 2, 1);
+        due(36, "off(3, 3), of like ones the lesser", x.off(3, 3), 1);
+        x.back(0);
+        x.resize(3, 2);
+        due(36, "off(3, 3), 6 and 7 have COUNTERS", x.off(3, 3), 1);
         x.come(2, 9, 1);
         x.only(2, 10, 8);
         due(36, "off(2, 3)", x.off(2, 3), 1);
