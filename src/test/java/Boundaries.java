@@ -12,7 +12,9 @@ import java.util.stream.Stream;
  *
  * <p>A line "## .." names a section of the document, lines "&gt; .." quote words of it: a new object
  * gets the calls below. A line "--" makes a new object for the same words, "let" names a piece of
- * text, and what stands behind "//" is for the reader. Every sentence of the Terms and of the promises must be quoted, and what is quoted must stand in the document.
+ * text, and what stands behind "//" is for the reader. What is quoted must stand in the document, and
+ * every sentence of the Terms and of the promises must be quoted. After each run it is asked whether
+ * the refused calls and the questions left all as it was (helpers/Twins).
  */
 public final class Boundaries {
     private static final Path FILES = Path.of("src/test/boundaries");
