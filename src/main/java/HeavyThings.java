@@ -1635,10 +1635,11 @@ public final class HeavyThings {
         }
 
         private boolean hasCounters(Octets from) {
+            int counters = from.number(1, 1);
             int total = from.number(2, 4);
             int ahead = 1;
             long lows = 0;
-            for (int k = 0; k < from.number(1, 1); k++) {
+            for (int k = 0; k < counters; k++) {
                 int at = HEAD_OCTETS + COUNTER_OCTETS * k;
                 int count = from.number(at + 2, 4);
                 int low = from.number(at + 6, 4);
@@ -1685,7 +1686,8 @@ public final class HeavyThings {
             into.total = from.number(2, 4);
             into.absent = from.number(6, 4);
             into.halveAt = from.number(10, 4);
-            for (int k = 0; k < from.number(1, 1); k++) {
+            int counters = from.number(1, 1);
+            for (int k = 0; k < counters; k++) {
                 int at = HEAD_OCTETS + COUNTER_OCTETS * k;
                 int thing = thingOf(from, k);
                 if (isThing(thing)) {
